@@ -1,0 +1,44 @@
+import java.util.function.Supplier;
+
+/** Counts the answers that are due and the ones that are not. */
+final class Check {
+    private static int asDue;
+    private static int wrong;
+
+    private Check() {
+    }
+
+    static void due(String what, long got, long want) {
+        record(got == want, what + " answered " + got + ", due is " + want);
+    }
+
+    /** Whether the very exception of this class is thrown, and none of a class below it. */
+    static void dueThrow(String what, Class<? extends RuntimeException> want, Supplier<?> call) {
+        String got;
+        try {
+            got = "answered " + call.get();
+        } catch (RuntimeException e) {
+            got = "threw " + e.getClass().getName();
+        }
+        record(got.equals("threw " + want.getName()), what + " " + got + ", due is " + want);
+    }
+
+    static void record(boolean isAsDue, String complaint) {
+        if (isAsDue) {
+            asDue++;
+        } else {
+            wrong++;
+            if (wrong <= 40) {
+                System.out.println(complaint);
+            }
+        }
+    }
+
+    /** Ends a test: with code 1 if an answer was not as due, or if none was asked for. */
+    static void finish() {
+        System.out.println(asDue + " answers as due, " + wrong + " not");
+        if (wrong > 0 || asDue == 0) {
+            System.exit(1);
+        }
+    }
+}
