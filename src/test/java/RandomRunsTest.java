@@ -1,10 +1,16 @@
+import java.lang.reflect.InvocationTargetException;
+import java.lang.reflect.Method;
+import java.lang.reflect.Modifier;
+import java.util.Arrays;
 import java.util.Random;
 import java.util.TreeMap;
 
 /** Runs of calls by chance (the same ones every time), each answered by the book and the model. */
 public final class RandomRunsTest {
     private static final int RUNS = 300;
-    private static final int CALLS = 250;
+    private static final int STEPS = 250;
+    /** A step takes less than 62 calls, and a book is only good for 512. */
+    private static final int ENOUGH = 450;
     private static final String[] METHODS = {"put", "take", "fill", "buy", "seed", "set", "draw", "claim",
         "end", "append", "clearBuffer", "firstError", "run", "keep", "goBack", "undo", "at", "cardOf",
         "numberOf", "call", "gameOf", "count", "setting", "whyNot", "ifClaimed", "missing", "fullAt",
@@ -30,6 +36,7 @@ public final class RandomRunsTest {
     private final TombolaBooks books = new TombolaBooks();
     private final Model model = new Model();
     private final int mood;
+    private int asked;
 
     private RandomRunsTest(int run) {
         chance = new Random(run);
@@ -47,7 +54,6 @@ public final class RandomRunsTest {
         for (String method : METHODS) {
             Check.record(SEEN.keySet().stream().anyMatch(key -> key.startsWith(method + " ")), method);
         }
-        if (args.length > 0) System.out.println(SEEN);
         Check.finish();
     }
 
@@ -57,18 +63,18 @@ public final class RandomRunsTest {
 
     private void play(int run) {
         if (mood > 0) {
-            ask(run, SEED, chance.nextInt(10000), 0, 0);
+            ask(run, SEED, chance.nextInt(10000));
             for (int card = 0; card < 6; card++) {
-                ask(run, FILL, card, 60, 0);
+                ask(run, FILL, card, 60);
             }
-            ask(run, SET, 1, mood == 5 ? 1 : chance.nextInt(4), 0);
-            ask(run, SET, 2, chance.nextInt(2), 0);
+            ask(run, SET, 1, mood == 5 ? 1 : chance.nextInt(4));
+            ask(run, SET, 2, chance.nextInt(2));
             buyCards(run);
         }
-        for (int i = 0; i < CALLS; i++) {
+        for (int i = 0; i < STEPS && asked < ENOUGH; i++) {
             step(run);
             if (i % 10 == 0) {
-                ask(run, DIGEST, 0, 0, 0);
+                ask(run, DIGEST);
             }
         }
     }
@@ -76,20 +82,20 @@ public final class RandomRunsTest {
     private void buyCards(int run) {
         for (int card = 0; card < 6; card++) {
             if (chance.nextInt(8) > 0) {
-                ask(run, BUY, card, 0, 0);
+                ask(run, BUY, card);
             }
         }
     }
 
     private void typeAndRun(int run) {
-        ask(run, CLEAR_BUFFER, 0, 0, 0);
+        ask(run, CLEAR_BUFFER);
         for (int orders = 1 + chance.nextInt(6); orders > 0; orders--) {
             for (char sign : order().toCharArray()) {
-                ask(run, APPEND, sign, 0, 0);
+                ask(run, APPEND, sign);
             }
         }
-        ask(run, FIRST_ERROR, 0, 0, 0);
-        ask(run, RUN, 0, 0, 0);
+        ask(run, FIRST_ERROR);
+        ask(run, RUN);
     }
 
     /** Draws a ball of a card, or one by whose slip a number of the card is said. */
@@ -98,8 +104,8 @@ public final class RandomRunsTest {
         int number = model.at(card, place / 9, place % 9);
         int ball = number > 1 && model.setting(1) > 0 ? number - 1 : number;
         if (number > 0 && model.numberOf(ball, 2) == 0) {
-            ask(run, SEED, model.lotFor(ball), 0, 0);
-            ask(run, DRAW, 1, 0, 0);
+            ask(run, SEED, model.lotFor(ball));
+            ask(run, DRAW, 1);
         }
     }
 
@@ -111,8 +117,8 @@ public final class RandomRunsTest {
         int method = method();
         if (method == CLAIM && mood >= 3 && chance.nextInt(4) > 0) {
             int game = chance.nextInt(4);
-            ask(run, CLAIM, run / 6 % 2, game, 0);
-            ask(run, CLAIM, run / 6 % 2, game, 0);
+            ask(run, CLAIM, run / 6 % 2, game);
+            ask(run, CLAIM, run / 6 % 2, game);
             return;
         }
         if (method == APPEND && chance.nextInt(4) > 0) {
@@ -217,155 +223,29 @@ public final class RandomRunsTest {
         }
     }
 
-    private void ask(int run, int method, int a, int b, int c) {
-        String due;
-        String got;
-        try {
-            due = answer(model, method, a, b, c);
-        } catch (RuntimeException e) {
-            due = e.getClass().getSimpleName();
-        }
-        try {
-            got = answer(books, method, a, b, c);
-        } catch (RuntimeException e) {
-            got = e.getClass().getSimpleName();
-        }
+    private void ask(int run, int method, int... arguments) {
+        asked++;
+        String due = answer(model, METHODS[method], arguments);
+        String got = answer(books, METHODS[method], arguments);
         SEEN.merge(METHODS[method] + " " + due, 1, Integer::sum);
-        Check.record(got.equals(due), "run " + run + ": " + METHODS[method] + "(" + a + ", " + b + ", " + c
-                + ") answered " + got + ", due is " + due);
+        Check.record(got.equals(due), "run " + run + ": " + METHODS[method] + Arrays.toString(arguments)
+                + " answered " + got + ", due is " + due);
     }
 
-    private static String answer(TombolaBooks x, int method, int a, int b, int c) {
-        switch (METHODS[method]) {
-            case "put":
-                return "" + x.put(a, b, c);
-            case "take":
-                return "" + x.take(a);
-            case "fill":
-                return "" + x.fill(a, b);
-            case "buy":
-                return "" + x.buy(a);
-            case "seed":
-                return "" + x.seed(a);
-            case "set":
-                return "" + x.set(a, b);
-            case "draw":
-                return "" + x.draw(a);
-            case "claim":
-                return "" + x.claim(a, b);
-            case "end":
-                return "" + x.end();
-            case "append":
-                return "" + x.append(a);
-            case "clearBuffer":
-                return "" + x.clearBuffer();
-            case "firstError":
-                return "" + x.firstError();
-            case "run":
-                return "" + x.run();
-            case "keep":
-                return "" + x.keep(a);
-            case "goBack":
-                return "" + x.goBack(a);
-            case "undo":
-                return "" + x.undo();
-            case "at":
-                return "" + x.at(a, b, c);
-            case "cardOf":
-                return "" + x.cardOf(a, b);
-            case "numberOf":
-                return "" + x.numberOf(a, b);
-            case "call":
-                return "" + x.call(a, b);
-            case "gameOf":
-                return "" + x.gameOf(a, b);
-            case "count":
-                return "" + x.count(a);
-            case "setting":
-                return "" + x.setting(a);
-            case "whyNot":
-                return "" + x.whyNot(a, b, c);
-            case "ifClaimed":
-                return "" + x.ifClaimed(a, b);
-            case "missing":
-                return "" + x.missing(a, b, c);
-            case "fullAt":
-                return "" + x.fullAt(a, b);
-            case "firstFull":
-                return "" + x.firstFull();
-            case "next":
-                return "" + x.next(a);
-            case "drawnShare":
-                return "" + x.drawnShare();
-            default:
-                return "" + x.digest();
+    /** What a method answers to the first of the arguments, or the exception that it throws. */
+    private static String answer(Object asked, String name, int[] arguments) {
+        Method method = null;
+        for (Method each : asked.getClass().getDeclaredMethods()) {
+            boolean isOpen = !Modifier.isPrivate(each.getModifiers());
+            method = isOpen && each.getName().equals(name) ? each : method;
         }
-    }
-
-    private static String answer(Model x, int method, int a, int b, int c) {
-        switch (METHODS[method]) {
-            case "put":
-                return "" + x.put(a, b, c);
-            case "take":
-                return "" + x.take(a);
-            case "fill":
-                return "" + x.fill(a, b);
-            case "buy":
-                return "" + x.buy(a);
-            case "seed":
-                return "" + x.seed(a);
-            case "set":
-                return "" + x.set(a, b);
-            case "draw":
-                return "" + x.draw(a);
-            case "claim":
-                return "" + x.claim(a, b);
-            case "end":
-                return "" + x.end();
-            case "append":
-                return "" + x.append(a);
-            case "clearBuffer":
-                return "" + x.clearBuffer();
-            case "firstError":
-                return "" + x.firstError();
-            case "run":
-                return "" + x.run();
-            case "keep":
-                return "" + x.keep(a);
-            case "goBack":
-                return "" + x.goBack(a);
-            case "undo":
-                return "" + x.undo();
-            case "at":
-                return "" + x.at(a, b, c);
-            case "cardOf":
-                return "" + x.cardOf(a, b);
-            case "numberOf":
-                return "" + x.numberOf(a, b);
-            case "call":
-                return "" + x.call(a, b);
-            case "gameOf":
-                return "" + x.gameOf(a, b);
-            case "count":
-                return "" + x.count(a);
-            case "setting":
-                return "" + x.setting(a);
-            case "whyNot":
-                return "" + x.whyNot(a, b, c);
-            case "ifClaimed":
-                return "" + x.ifClaimed(a, b);
-            case "missing":
-                return "" + x.missing(a, b, c);
-            case "fullAt":
-                return "" + x.fullAt(a, b);
-            case "firstFull":
-                return "" + x.firstFull();
-            case "next":
-                return "" + x.next(a);
-            case "drawnShare":
-                return "" + x.drawnShare();
-            default:
-                return "" + x.digest();
+        Object[] taken = Arrays.stream(arguments).limit(method.getParameterCount()).boxed().toArray();
+        try {
+            return "" + method.invoke(asked, taken);
+        } catch (InvocationTargetException e) {
+            return e.getCause().getClass().getSimpleName();
+        } catch (IllegalAccessException e) {
+            throw new AssertionError(e);
         }
     }
 }
