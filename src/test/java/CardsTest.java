@@ -147,32 +147,8 @@ public final class CardsTest {
     }
 
     private static void fillOfAFullBook() {
-        // Rows of 90 numbers: the numbers by columns, each to the row that has the fewest.
-        TombolaBooks b = new TombolaBooks();
-        int[] sizes = new int[18];
-        int placed = 0;
-        for (int column = 8; column >= 0; column--) {
-            int first = column == 0 ? 1 : 10 * column;
-            int last = column == 8 ? 90 : 10 * column + 9;
-            boolean[] used = new boolean[18];
-            int[] rows = new int[last - first + 1];
-            for (int i = 0; i < rows.length; i++) {
-                int best = -1;
-                for (int row = 0; row < 18; row++) {
-                    if (!used[row] && (best < 0 || sizes[row] < sizes[best])) {
-                        best = row;
-                    }
-                }
-                used[best] = true;
-                sizes[best]++;
-                rows[i] = best;
-            }
-            java.util.Arrays.sort(rows);
-            for (int i = 0; i < rows.length; i++) {
-                placed += b.put(rows[i] / 3, rows[i] % 3, first + i) == 0 ? 1 : 0;
-            }
-        }
-        Check.due("all numbers placed", placed, 90);
+        TombolaBooks b = new Play().fullBook().books;
+        Check.due("all numbers placed", b.count(0), 90);
         Check.due("whole cards", b.count(1), 6);
         Check.due("fill without a free number", b.fill(0, 60), 0);
         Check.due("no lot is drawn", b.count(13), 1);

@@ -4,8 +4,18 @@ import java.util.function.Supplier;
 final class Check {
     private static int asDue;
     private static int wrong;
+    private static String place = "";
 
     private Check() {
+    }
+
+    /** Names the test that the next answers belong to. */
+    static void begin(String test) {
+        place = test + ": ";
+    }
+
+    static int answers() {
+        return asDue + wrong;
     }
 
     static void due(String what, long got, long want) {
@@ -29,7 +39,7 @@ final class Check {
         } else {
             wrong++;
             if (wrong <= 40) {
-                System.out.println(complaint);
+                System.out.println(place + complaint);
             }
         }
     }
