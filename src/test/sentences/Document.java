@@ -2,13 +2,14 @@ import java.io.IOException;
 import java.nio.file.Files;
 import java.nio.file.Path;
 import java.util.ArrayList;
+import java.util.Arrays;
 import java.util.LinkedHashMap;
 import java.util.List;
 import java.util.Map;
 import java.util.regex.Matcher;
 import java.util.regex.Pattern;
 
-/** The document's heads from "Terms" to the last promise, and which of the words below are quoted. */
+/** The document's heads, the words below them, and which of the words are quoted by tests. */
 final class Document {
     /** A face's line begins so; FaceTest looks at it. */
     private static final Pattern SIGNATURE = Pattern.compile("^`[^`]*\\([^`]*`: ");
@@ -22,13 +23,14 @@ final class Document {
         for (String line : Files.readAllLines(file)) {
             if (line.startsWith("#") || line.equals("Snapshots, undo")) {
                 head = line.replaceFirst("^#+ ", "");
-            } else if (!line.isBlank() && isPromised(head) && !tellsOnlyOfAnOrder(line)) {
+            } else if (!line.isBlank() && !tellsOnlyOfAnOrder(line)) {
                 String words = SIGNATURE.matcher(line).replaceFirst("").replaceFirst("^- ", "");
                 texts.computeIfAbsent(head, key -> new StringBuilder()).append(words).append(' ');
             }
         }
     }
 
+    /** From "Terms" to the last promise. */
     private static boolean isPromised(String head) {
         return !List.of("", "TombolaBooks", "What it is", "The public face", "Not promised").contains(head);
     }
@@ -44,19 +46,27 @@ final class Document {
         quotes.computeIfAbsent(head, key -> new ArrayList<>()).add(words);
     }
 
-    /** Each word of the document must be in a sentence that a test is for. */
+    /** Each word of the terms and promises must be in a sentence that a test is for. */
     void checkThatAllIsQuoted() {
-        Check.record(texts.size() == 32 + 10, "the document has " + texts.size() + " heads");
-        for (Map.Entry<String, StringBuilder> section : texts.entrySet()) {
-            String text = section.getValue().toString();
-            boolean[] quoted = new boolean[text.length()];
-            for (String words : quotes.getOrDefault(section.getKey(), List.of())) {
-                for (int at = text.indexOf(words); at >= 0; at = text.indexOf(words, at + 1)) {
-                    java.util.Arrays.fill(quoted, at, at + words.length(), true);
-                }
+        int heads = 0;
+        for (String head : texts.keySet()) {
+            if (isPromised(head)) {
+                heads++;
+                checkThatAllIsQuotedBelow(head);
             }
-            checkWords(section.getKey(), text, quoted);
         }
+        Check.due("heads of terms and promises", heads, 10 + 32);
+    }
+
+    private void checkThatAllIsQuotedBelow(String head) {
+        String text = texts.get(head).toString();
+        boolean[] quoted = new boolean[text.length()];
+        for (String words : quotes.getOrDefault(head, List.of())) {
+            for (int at = text.indexOf(words); at >= 0; at = text.indexOf(words, at + 1)) {
+                Arrays.fill(quoted, at, at + words.length(), true);
+            }
+        }
+        checkWords(head, text, quoted);
     }
 
     private static void checkWords(String head, String text, boolean[] quoted) {

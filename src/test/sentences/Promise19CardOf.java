@@ -119,6 +119,17 @@ final class Promise19CardOf {
         due("rows without numbers", empty, 5, 0);
     }
 
+    @Sentence("5: rows that have 5 numbers all of which were drawn;")
+    static void drawnRowsOfEachCard() {
+        for (int row = 0; row < 18; row++) {
+            TombolaBooks b = new Play().fullBook().balls(Play.FULL[row / 3][row % 3]).books;
+            for (int card = 0; card < 6; card++) {
+                Check.due("the row " + row + ", the card " + card, b.cardOf(card, 5), card == row / 3 ? 1 : 0);
+                Check.due("drawn of the card " + card, b.cardOf(card, 3), card == row / 3 ? 5 : 0);
+            }
+        }
+    }
+
     @Sentence("6: games that it won in this evening, as a mask;")
     static void games() {
         for (int game = 0; game < 4; game++) {

@@ -120,6 +120,49 @@ final class Promise27Missing {
         }
     }
 
+    @Sentence("1: the number that is missing,")
+    static void theNumberThatIsMissingOfEachCard() {
+        for (int row = 0; row < 18; row++) {
+            int[] numbers = Play.FULL[row / 3][row % 3];
+            Play play = new Play().fullBook().balls(numbers[0], numbers[1], numbers[2], numbers[4]);
+            Check.due("of the line " + row, play.books.missing(row / 3, LINE, 1), numbers[3]);
+        }
+    }
+
+    @Sentence("1: the number that is missing,")
+    static void theCornerThatIsMissingOfEachCard() {
+        for (int card = 0; card < 6; card++) {
+            int[] top = Play.FULL[card][0];
+            int[] low = Play.FULL[card][2];
+            int[] corners = {top[0], top[4], low[0], low[4]};
+            for (int last = 0; last < 4; last++) {
+                Play play = new Play().fullBook();
+                for (int i = 1; i <= 3; i++) {
+                    play.balls(corners[(last + i) % 4]);
+                }
+                Check.due("of the corners", play.books.missing(card, CORNERS, 0), 1);
+                Check.due("the corner", play.books.missing(card, CORNERS, 1), corners[last]);
+            }
+        }
+    }
+
+    @Sentence("(of several rows with just one the first one;")
+    static void ofAllRowsTheFirstOneOfTheCard() {
+        Play play = new Play().fullBook();
+        for (int[][] card : Play.FULL) {
+            for (int[] row : card) {
+                play.balls(row[0], row[1], row[3], row[4]);
+            }
+        }
+        for (int card = 0; card < 6; card++) {
+            Check.due("of a line", play.books.missing(card, LINE, 0), 1);
+            Check.due("the first one of the card " + card, play.books.missing(card, LINE, 1), Play.FULL[card][0][2]);
+            Check.due("of two lines", play.books.missing(card, TWO_LINES, 0), 2);
+            Check.due("not just one", play.books.missing(card, TWO_LINES, 1), NONE);
+            Check.due("of a full card", play.books.missing(card, FULL, 0), 3);
+        }
+    }
+
     @Sentence("(of several rows with just one the first one;")
     static void ofSeveralRowsTheFirstOne() {
         Play play = whole().balls(14, 58, 69, 70);

@@ -1,5 +1,6 @@
 import java.lang.reflect.InvocationTargetException;
 import java.lang.reflect.Method;
+import java.lang.reflect.Modifier;
 import java.nio.file.Path;
 import java.util.ArrayList;
 import java.util.Comparator;
@@ -7,7 +8,8 @@ import java.util.List;
 
 /**
  * Runs the tests of the document's sentences: the first argument is the document, the others are
- * the classes. Each word of the terms and promises must be in a sentence that a test is for.
+ * the classes. Each word of the terms and promises must be in a sentence that a test is for, and
+ * each sentence that a test names must stand in the document, below the head that its class names.
  */
 public final class SentencesTest {
     private static int tests;
@@ -42,6 +44,9 @@ public final class SentencesTest {
         for (Method method : group.getDeclaredMethods()) {
             if (method.isAnnotationPresent(Sentence.class)) {
                 found.add(method);
+            } else {
+                boolean isHelper = Modifier.isPrivate(method.getModifiers()) || method.isSynthetic();
+                Check.record(isHelper, method.getName() + " is for no sentence");
             }
         }
         Check.record(!found.isEmpty(), "the class has no test");

@@ -55,6 +55,16 @@ final class TermsClaims {
         behind(LINE, 4, 1, 12, 23, 34, 13, 24, 46, 57, 2, 14, 58, 69);
     }
 
+    @Sentence("0: a line: all numbers of one of its rows")
+    static void aLineOfEachCard() {
+        for (int row = 0; row < 18; row++) {
+            TombolaBooks b = new Play().fullBook().buy(6).balls(Play.FULL[row / 3][row % 3]).books;
+            for (int card = 0; card < 6; card++) {
+                Check.due("the line " + row + ", the card " + card, b.claim(card, LINE), card == row / 3 ? 0 : 4);
+            }
+        }
+    }
+
     @Sentence("1: the corners: the lowest and the greatest number of the row 0, and those of the row 2;")
     static void theCorners() {
         behind(CORNERS, 0, 1, 45, 2, 70);
@@ -65,6 +75,30 @@ final class TermsClaims {
         behind(CORNERS, 4, 1, 45, 13, 90);
         behind(CORNERS, 4, 13, 90, 2, 70);
         behind(CORNERS, 4, 12, 34, 14, 69);
+    }
+
+    private static int[] cornersOf(int card) {
+        int[] top = Play.FULL[card][0];
+        int[] low = Play.FULL[card][2];
+        return new int[] {top[0], top[4], low[0], low[4]};
+    }
+
+    @Sentence("1: the corners:")
+    static void theCornersOfEachCard() {
+        for (int card = 0; card < 6; card++) {
+            int[] corners = cornersOf(card);
+            for (int last = 0; last < 4; last++) {
+                Play play = new Play().fullBook().buy(6).set(2, 1);
+                for (int i = 1; i <= 3; i++) {
+                    play.balls(corners[(last + i) % 4]);
+                }
+                Check.due("three of the card " + card, play.books.claim(card, CORNERS), 4);
+                play.balls(corners[last]);
+                Check.due("four of the card " + card, play.books.ifClaimed(card, CORNERS), 0);
+                play.balls(Play.FULL[card][0][2]);
+                Check.due("and then none of them", play.books.claim(card, CORNERS), 5);
+            }
+        }
     }
 
     @Sentence("2: two lines;")
@@ -80,6 +114,22 @@ final class TermsClaims {
             claims("a line and twice four", play, TWO_LINES, 4);
             play.balls(others[4]);
             claims("two lines", play, TWO_LINES, 0);
+        }
+    }
+
+    @Sentence("2: two lines;")
+    static void twoLinesOfEachCard() {
+        for (int card = 0; card < 6; card++) {
+            int[][] rows = Play.FULL[card];
+            Play play = new Play().fullBook().buy(6).set(2, 1).balls(rows[2]).balls(rows[0]);
+            Check.due("two lines of the card " + card, play.books.ifClaimed(card, TWO_LINES), 0);
+            play.balls(rows[1][0]);
+            Check.due("the last ball is of none", play.books.ifClaimed(card, TWO_LINES), 5);
+            play.balls(rows[1][1], rows[1][2], rows[1][3]);
+            Check.due("14 of the card " + card, play.books.claim(card, FULL), 4);
+            play.balls(rows[1][4]);
+            Check.due("all of the card " + card, play.books.claim(card, FULL), 0);
+            Check.due("the third line", play.books.claim(card, TWO_LINES), 0);
         }
     }
 

@@ -110,6 +110,19 @@ final class TermsCoins {
         Check.due("the card 1", one.books.cardOf(1, 7), 3);
     }
 
+    @Sentence("in equal parts, rounded down, to the cards that won it;")
+    static void toAllSixCards() {
+        Play play = new Play().fullBook().set(0, 99).buy(6);
+        claimAll(play, 6);
+        // Of 594 coins 59, 59, 118 and 237, in six parts.
+        pays(play.books, 54, 54, 114, 234);
+        Check.due("the house", play.end(), 594 - 54 - 54 - 114 - 234);
+        for (int card = 0; card < 6; card++) {
+            Check.due("the card " + card, play.books.cardOf(card, 7), 9 + 9 + 19 + 39);
+        }
+        Check.due("paid", play.books.count(5), 456);
+    }
+
     @Sentence("what is left of the pot is the house's.")
     static void theRestIsTheHouses() {
         Play play = winner(99);

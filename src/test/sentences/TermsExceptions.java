@@ -1,3 +1,4 @@
+import java.util.List;
 import java.util.function.Supplier;
 import java.util.function.ToLongFunction;
 
@@ -175,7 +176,7 @@ final class TermsExceptions {
         }
     }
 
-    private static java.util.List<Supplier<TombolaBooks>> whatWouldBeMakers() {
-        return java.util.List.of(TermsExceptions::busy, () -> Play.rich().books, TombolaBooks::new);
+    private static List<Supplier<TombolaBooks>> whatWouldBeMakers() {
+        return List.of(TermsExceptions::busy, () -> Play.rich().books, TombolaBooks::new);
     }
 }

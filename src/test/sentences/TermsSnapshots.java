@@ -58,6 +58,51 @@ final class TermsSnapshots {
         Check.due("the first call", b.call(11, 1), longAgo);
     }
 
+    /** A book of which all is full: cards, calls, slips, winners, and coins and claims of each card. */
+    private static Play full() {
+        Play play = new Play().fullBook().set(1, 1);
+        for (int evening = 0; evening < 2; evening++) {
+            play.set(0, 99).buy(6);
+            for (int card = 0; card < 6; card++) {
+                play.books.claim(card, 3);
+            }
+            play.books.draw(90);
+            for (int card = 0; card < 6; card++) {
+                for (int game = 0; game < 4; game++) {
+                    play.books.claim(card, game);
+                }
+            }
+            if (evening == 0) {
+                play.end();
+            }
+        }
+        return play;
+    }
+
+    @Sentence("a snapshot is all")
+    static void aSnapshotIsAllOfAFullBook() {
+        TombolaBooks b = full().books;
+        b.keep(0);
+        long before = b.digest();
+        int first = b.call(89, 0);
+        int[] last = {b.call(0, 0), b.call(0, 1)};
+        for (int card = 0; card < 6; card++) {
+            Check.due("a claim that is turned down", b.claim(card, 3), 2);
+        }
+        b.end();
+        b.take(90);
+        b.take(89);
+        b.take(1);
+        b.seed(1);
+        b.draw(90);
+        Check.record(b.call(0, 0) != last[0], "another ball is the last one");
+        b.goBack(0);
+        Check.due("the digest", b.digest(), before);
+        Check.due("the first call", b.call(89, 0), first);
+        Check.due("the last call", b.call(0, 0), last[0]);
+        Check.due("what was said last", b.call(0, 1), last[1]);
+    }
+
     @Sentence("but the buffer,")
     static void notTheBuffer() {
         Play play = new Play().type("d1");
