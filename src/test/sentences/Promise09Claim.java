@@ -41,12 +41,14 @@ final class Promise09Claim {
 
     @Sentence("`card`: 0 to 5")
     static void card() {
-        Bounds.inside(0, 5, Promise09Claim::allDrawn, (b, card) -> b.claim(card, 3) + b.gameOf(3, 0), card -> 1 << card);
+        Bounds.inside(0, 5, Promise09Claim::allDrawn, (b, card) -> b.claim(card, 3) + b.gameOf(3, 0),
+                card -> 1 << card);
     }
 
     @Sentence("`game`: 0 to 3")
     static void game() {
-        Bounds.inside(0, 3, Promise09Claim::allDrawn, (b, game) -> b.claim(2, game) + b.cardOf(2, 6), game -> 1 << game);
+        Bounds.inside(0, 3, Promise09Claim::allDrawn, (b, game) -> b.claim(2, game) + b.cardOf(2, 6),
+                game -> 1 << game);
     }
 
     @Sentence("Returns 0 if it wins it;")
