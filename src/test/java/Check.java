@@ -24,13 +24,18 @@ final class Check {
 
     /** Whether the very exception of this class is thrown, and none of a class below it. */
     static void dueThrow(String what, Class<? extends RuntimeException> want, Supplier<?> call) {
+        dueTold(what, "throws " + want.getName(), call);
+    }
+
+    /** Whether a call answers so, told as a text: its value, or "throws" and the name of the exception. */
+    static void dueTold(String what, String want, Supplier<?> call) {
         String got;
         try {
-            got = "answered " + call.get();
+            got = "" + call.get();
         } catch (RuntimeException e) {
-            got = "threw " + e.getClass().getName();
+            got = "throws " + e.getClass().getName();
         }
-        record(got.equals("threw " + want.getName()), what + " " + got + ", due is " + want);
+        record(got.equals(want), what + " answered " + got + ", due is " + want);
     }
 
     static void record(boolean isAsDue, String complaint) {
